@@ -13,6 +13,8 @@ public final class TwoWeavers {
     private static final int TAPE_ROOM = 900;
     private static final int KIND_ROOM = 8;
     private static final int COLOUR_ROOM = 2;
+    private static final int STORE_LEVELS = 10;
+    private static final int USES = STORE_LEVELS * STORE_LEVELS;
     private static final int SIDE_ROOM = 24;
     private static final int MOTIF_ROOM = 4;
     private static final int MOTIF_ROWS = 4;
@@ -39,8 +41,6 @@ public final class TwoWeavers {
     private final Reader reader = new Reader();
     private Plan plan = new Plan();
     private Loom loom = new Loom();
-    private Plan draftPlan = new Plan();
-    private Loom draftLoom = new Loom();
     private boolean clothTold = false;
     private int latestTrouble = NO_TROUBLE;
     private final Loom[] acts = new Loom[ACT_ROOM];
@@ -79,12 +79,12 @@ public final class TwoWeavers {
         if (n < 0 || n > tapeLength) {
             return refused(A_NUMBER);
         }
-        boolean understood = reader.read(tape, n, draftPlan, draftLoom);
+        boolean understood = reader.read(tape, n);
         tapeLength = 0;
         if (!understood) {
             return refused(A_FAULT);
         }
-        takeDraft();
+        takeWhatWasRead();
         return answer(plan.kinds);
     }
 
@@ -342,7 +342,7 @@ public final class TwoWeavers {
             return refused(NONE_SUCH);
         }
         int wrong = loom.firstWrong(plan);
-        return answer(wrong < 0 ? 0 : Math.min(loom.counts[LEFT], loom.counts[RIGHT]) - wrong);
+        return answer(wrong < 0 ? 0 : loom.sharedPlaces() - wrong);
     }
 
     public int mendBy() {
@@ -513,14 +513,14 @@ public final class TwoWeavers {
         }
     }
 
-    /** The former cloth becomes the next draft, so that no cloth needs new objects. */
-    private void takeDraft() {
+    /** What was read becomes the cloth; the reader goes on with the former one's objects, so none is new. */
+    private void takeWhatWasRead() {
         Plan formerPlan = plan;
         Loom formerLoom = loom;
-        plan = draftPlan;
-        loom = draftLoom;
-        draftPlan = formerPlan;
-        draftLoom = formerLoom;
+        plan = reader.plan;
+        loom = reader.loom;
+        reader.plan = formerPlan;
+        reader.loom = formerLoom;
         clothTold = true;
         actCount = 0;
         markCount = 0;
@@ -866,8 +866,8 @@ public final class TwoWeavers {
         private long wordCode = 0;
         private int whole = 0;
         private int found = 0;
-        private Plan plan = null;
-        private Loom loom = null;
+        Plan plan = new Plan();
+        Loom loom = new Loom();
         private final long[] nameCodes = new long[NAME_ROOM];
         private final int[] nameSorts = new int[NAME_ROOM];
         private final int[] nameNumbers = new int[NAME_ROOM];
@@ -879,11 +879,9 @@ public final class TwoWeavers {
         int faultNumber = 0;
         int faultPlace = NONE;
 
-        boolean read(byte[] bytes, int length, Plan intoPlan, Loom intoLoom) {
-            if (length > bytes.length) {
-                return false;
-            }
-            begin(bytes, length, intoPlan, intoLoom);
+        /** Whether the first bytes tell a cloth; it stands in plan and loom then. */
+        boolean read(byte[] bytes, int length) {
+            begin(bytes, Math.min(length, bytes.length));
             advance();
             for (int line = 0; line <= TAPE_ROOM; line++) {
                 if (!readLine()) {
@@ -900,12 +898,10 @@ public final class TwoWeavers {
             return fail(FORM);
         }
 
-        private void begin(byte[] bytes, int length, Plan intoPlan, Loom intoLoom) {
+        private void begin(byte[] bytes, int length) {
             text = bytes;
             end = length;
             tokenEnd = 0;
-            plan = intoPlan;
-            loom = intoLoom;
             plan.clear();
             loom.clear();
             nameCount = 0;
@@ -1313,9 +1309,6 @@ public final class TwoWeavers {
 
     /** What one weaver may weave, one row behind the other, with what is in store. */
     private static final class Walk {
-        private static final int LEVELS = 10;
-        private static final int USES = LEVELS * LEVELS;
-
         private final int[] steps = new int[KIND_ROOM];
         private final int[] stores = new int[COLOUR_ROOM];
         private final int[] chainEnds = new int[(SIDE_ROOM + 1) * USES];
@@ -1341,8 +1334,8 @@ public final class TwoWeavers {
             Arrays.fill(chainEnds, 0);
             Arrays.fill(lasts, 0);
             longest = 0;
-            stores[0] = Math.min(store0, LEVELS - 1);
-            stores[1] = Math.min(store1, LEVELS - 1);
+            stores[0] = Math.min(store0, STORE_LEVELS - 1);
+            stores[1] = Math.min(store1, STORE_LEVELS - 1);
             int bound = Math.min(most, SIDE_ROOM);
             if (bound > 0) {
                 lengthen(plan, 1, 0, 0, first);
@@ -1350,7 +1343,7 @@ public final class TwoWeavers {
             for (int rows = 1; rows < bound && lasts[rows] != 0; rows++) {
                 for (int used0 = 0; used0 <= stores[0]; used0++) {
                     for (int used1 = 0; used1 <= stores[1]; used1++) {
-                        int from = chainEnds[rows * USES + used0 * LEVELS + used1];
+                        int from = chainEnds[rows * USES + used0 * STORE_LEVELS + used1];
                         if (from != 0) {
                             lengthen(plan, rows + 1, used0, used1, followers(plan, from));
                         }
@@ -1371,10 +1364,13 @@ public final class TwoWeavers {
 
         private void lengthen(Plan plan, int rows, int used0, int used1, int by) {
             for (int r = 0; r < plan.kinds; r++) {
+                if (!hasBit(by, r)) {
+                    continue;
+                }
                 int sum0 = used0 + plan.takesOf(r, 0);
                 int sum1 = used1 + plan.takesOf(r, 1);
-                if (hasBit(by, r) && sum0 <= stores[0] && sum1 <= stores[1]) {
-                    chainEnds[rows * USES + sum0 * LEVELS + sum1] |= 1 << r;
+                if (sum0 <= stores[0] && sum1 <= stores[1]) {
+                    chainEnds[rows * USES + sum0 * STORE_LEVELS + sum1] |= 1 << r;
                     lasts[rows] |= 1 << r;
                     longest = rows;
                 }
@@ -1386,7 +1382,7 @@ public final class TwoWeavers {
             int bits = 0;
             for (int more0 = 0; more0 <= stores[0] - used0; more0++) {
                 for (int more1 = 0; more1 <= stores[1] - used1; more1++) {
-                    bits |= chainEnds[rows * USES + more0 * LEVELS + more1];
+                    bits |= chainEnds[rows * USES + more0 * STORE_LEVELS + more1];
                 }
             }
             for (int r = 0; r < KIND_ROOM; r++) {
@@ -1630,10 +1626,9 @@ public final class TwoWeavers {
     /** Counts meetings without ripping. */
     private static final class Tally {
         private static final long MOST_TOLD = 1000000000000000000L;
-        private static final int LEVELS = 10;
 
-        private long[] current = new long[LEVELS * LEVELS * KIND_ROOM];
-        private long[] longer = new long[LEVELS * LEVELS * KIND_ROOM];
+        private long[] current = new long[USES * KIND_ROOM];
+        private long[] longer = new long[USES * KIND_ROOM];
         private final long[] byLast = new long[2 * (SIDE_ROOM + 1) * KIND_ROOM];
 
         long countMeetings(Plan plan, Loom loom) {
@@ -1701,7 +1696,7 @@ public final class TwoWeavers {
         /** Adds up chains of so many rows by their last ones, lengthens each; whether there was one. */
         private boolean countChains(Plan plan, Loom loom, int side, int more) {
             boolean some = false;
-            for (int used = 0; used < LEVELS * LEVELS; used++) {
+            for (int used = 0; used < USES; used++) {
                 for (int r = 0; r < plan.kinds; r++) {
                     long chains = current[used * KIND_ROOM + r];
                     if (chains > 0) {
@@ -1717,10 +1712,13 @@ public final class TwoWeavers {
 
         private void lengthen(Plan plan, Loom loom, int side, int used, int by, long chains) {
             for (int r = 0; r < plan.kinds; r++) {
-                int sum0 = used / LEVELS + plan.takesOf(r, 0);
-                int sum1 = used % LEVELS + plan.takesOf(r, 1);
-                if (hasBit(by, r) && sum0 <= loom.storeOf(side, 0) && sum1 <= loom.storeOf(side, 1)) {
-                    int slot = (sum0 * LEVELS + sum1) * KIND_ROOM + r;
+                if (!hasBit(by, r)) {
+                    continue;
+                }
+                int sum0 = used / STORE_LEVELS + plan.takesOf(r, 0);
+                int sum1 = used % STORE_LEVELS + plan.takesOf(r, 1);
+                if (sum0 <= loom.storeOf(side, 0) && sum1 <= loom.storeOf(side, 1)) {
+                    int slot = (sum0 * STORE_LEVELS + sum1) * KIND_ROOM + r;
                     longer[slot] = plus(longer[slot], chains);
                 }
             }
