@@ -9,6 +9,9 @@ public final class MeetingTest {
         best();
         bestByRipping();
         bestByNumbers();
+        bestThatEndsWithTheFirst();
+        fullSides();
+        anotherCloth();
         noMeeting();
         far();
         ways();
@@ -142,6 +145,62 @@ public final class MeetingTest {
         Check.due("takes(0, 0)", x.takes(0, 0), 2);
         Check.due("takes(0, 1)", x.takes(0, 1), 1);
         Check.due("takes(1, 0)", x.takes(1, 0), 0);
+    }
+
+    private static void wovenAre(TwoWeavers x, int... due) {
+        Check.due("meeting(1)", x.meeting(1), due.length);
+        for (int i = 0; i < due.length; i++) {
+            Check.due(x, "woven(" + i + ")", x.woven(i), due[i], 0);
+        }
+    }
+
+    private static void bestThatEndsWithTheFirst() {
+        String start = "cloth length 4 slack 0 left 1 right 1 rate 1;colour r left 9 right 9;row a of r 1";
+        wovenAre(Check.told(start + " seam;row b of r 1;row t of r 1 seam;next b then b,a;next a then t;right t"), 1, 1, 0);
+        wovenAre(Check.told(start + ";row s of r 1 seam;row c of r 1;row t of r 1 seam;next s then a;next c then a,c,s;"
+            + "next a then t;right t"), 2, 2, 0);
+    }
+
+    private static void fullSides() {
+        String start = "cloth length 48 slack 0 left 1 right 1 rate 5;colour r left 0 right 0;row a of r 0;next a then a";
+        TwoWeavers x = Check.told(start);
+        Check.due("meeting(1): 24 by each", x.meeting(1), 48);
+        Check.due("meeting(3)", x.meeting(3), 24);
+        Check.due("woven(47)", x.woven(47), 0);
+        Check.due("ways()", x.ways(), 1);
+        Check.due("sureRows(0)", x.sureRows(0), 1);
+        Check.due("sureRows(1)", x.sureRows(1), 1);
+        Check.due("weeks(9)", x.weeks(9), 48);
+        Check.due("meets()", x.meets(), 1);
+        Check.due("may(0)", x.may(0), 0);
+        Check.due("ways()", x.ways(), 1);
+        x = Check.told(start.replace("48", "49"));
+        Check.due("meeting(1): none has 25 rows", x.meeting(1), -2);
+        Check.due("ways()", x.ways(), 0);
+        Check.due("sureRows(0)", x.sureRows(0), 0);
+        x = Check.told(start.replace("48", "25"));
+        Check.due("meeting(3): the right can weave 24", x.meeting(3), 1);
+        Check.due("ways()", x.ways(), 24);
+    }
+
+    private static void anotherCloth() {
+        String start = "cloth length 4 slack 0 left 1 right 1 rate 1;colour r left 9 right 9;row a of r 0;next a then a";
+        TwoWeavers x = Check.told(start);
+        Check.due("meeting(1)", x.meeting(1), 4);
+        Check.tell(x, start.replace("length 4", "length 7"));
+        Check.due("meeting(1) of another cloth", x.meeting(1), 7);
+        x.mark();
+        x.weave(0, 0);
+        Check.due("meeting(1) behind a row woven", x.meeting(1), 6);
+        x.undo();
+        Check.due("meeting(1) when it is undone", x.meeting(1), 7);
+        x.weave(1, 0);
+        x.rip(1);
+        Check.due("meeting(1) behind a row ripped", x.meeting(1), 7);
+        x.weeks(2);
+        Check.due("meeting(1) behind two weeks", x.meeting(1), 4);
+        x.back(0);
+        Check.due("meeting(1) as by the mark", x.meeting(1), 7);
     }
 
     private static void noMeeting() {

@@ -152,6 +152,8 @@ public final class TextTest {
         faultAtBar(START + ";motif m plain a;motif |m", 3);
         faultAtBar(START + ";motif m plain a;colour |m", 3);
         faultAtBar(START + ";next a then b,a,|b", 3);
+        faultAtBar(START + ";row c of r 1;row d of r 1;row e of r 1;row f of r 1;row g of r 1;row h of r 1;"
+            + "next a then a,b,c,d,e,f,g,h,|a", 3);
         faultAtBar(START + ";next a then b;next b then a;next |a", 3);
         faultAtBar(START + ";answers a b;answers |b", 3);
         faultAtBar(START + ";answers a a;answers b |a", 3);
@@ -254,5 +256,11 @@ public final class TextTest {
         Check.due("cloth of the first bytes", x.cloth(START.length()), 2);
         Check.due("row(0, 2), no seam is left over", x.row(0, 2), 0);
         Check.due("size(12)", x.size(12), 0);
+        Check.feed(x, START + "33");
+        Check.due("cloth that ends amid digits", x.cloth(START.length()), 2);
+        Check.due("row(1, 1)", x.row(1, 1), 3);
+        Check.feed(x, START + " seams");
+        Check.due("cloth that ends amid letters", x.cloth(START.length() + 5), 2);
+        Check.due("row(1, 2)", x.row(1, 2), 1);
     }
 }
