@@ -1401,6 +1401,7 @@ public final class TwoWeavers {
 
         final Walk walk = new Walk();
         private final int[] lasts = new int[2 * STARTS * (SIDE_ROOM + 1)];
+        private final int[] longest = new int[2 * STARTS];
         private final boolean[] known = new boolean[2 * STARTS];
 
         int longestWalk(Plan plan, Loom loom, int side) {
@@ -1435,7 +1436,14 @@ public final class TwoWeavers {
                 lasts[start * (SIDE_ROOM + 1) + more] = walk.lasts[more];
             }
             lasts[start * (SIDE_ROOM + 1)] = last < 0 ? 0 : 1 << last;
+            longest[start] = walk.longest;
             known[start] = true;
+        }
+
+        /** How many rows a side may weave at most when some are ripped, so that none is asked for in vain. */
+        int mostMore(Loom loom, int side, int ripped) {
+            int start = side * STARTS + startOf(loom.lastAfter(side, ripped));
+            return Math.min(longest[start], SIDE_ROOM - loom.counts[side] + ripped);
         }
 
         int lastsOf(int side, int start, int more) {
@@ -1546,7 +1554,9 @@ public final class TwoWeavers {
                 rightRipped = ripped - byLeft;
                 ends.learnFrom(plan, loom, LEFT, loom.lastAfter(LEFT, leftRipped));
                 ends.learnFrom(plan, loom, RIGHT, loom.lastAfter(RIGHT, rightRipped));
-                for (int leftMore = 0; leftMore <= more; leftMore++) {
+                int leftMost = ends.mostMore(loom, LEFT, leftRipped);
+                int rightMost = ends.mostMore(loom, RIGHT, rightRipped);
+                for (int leftMore = Math.max(0, more - rightMost); leftMore <= Math.min(more, leftMost); leftMore++) {
                     leftWoven = leftMore;
                     rightWoven = more - leftMore;
                     if (meetsSo(plan, loom, ends)) {
@@ -1560,7 +1570,7 @@ public final class TwoWeavers {
         private boolean meetsSo(Plan plan, Loom loom, Ends ends) {
             int left = loom.counts[LEFT] - leftRipped + leftWoven;
             int right = loom.counts[RIGHT] - rightRipped + rightWoven;
-            return left <= SIDE_ROOM && right <= SIDE_ROOM && plan.fits(plan.unitsOf(left, right))
+            return plan.fits(plan.unitsOf(left, right))
                 && plan.joins(leftLasts(loom, ends), rightLasts(loom, ends));
         }
 
