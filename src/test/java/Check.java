@@ -2,14 +2,20 @@
 final class Check {
     private static int wrong = 0;
     private static int made = 0;
+    private static String sentence = "";
 
     private Check() { }
+
+    /** The sentence of the document that the answers from here on are held against; told with each wrong one. */
+    static void about(String told) {
+        sentence = told + ": ";
+    }
 
     static void due(String call, long got, long want) {
         made++;
         if (got != want) {
             wrong++;
-            System.out.println(call + " answered " + got + ", due is " + want);
+            System.out.println(sentence + call + " answered " + got + ", due is " + want);
         }
     }
 
@@ -55,6 +61,27 @@ final class Check {
             due("fault() of " + text + " at " + x.where(), x.fault(), 0);
         }
         return x;
+    }
+
+    /** A text that is a cloth with so many kinds of rows. */
+    static void fine(String text, int kinds) {
+        TwoWeavers x = new TwoWeavers();
+        due(x, "cloth of " + text, tell(x, text), kinds, 0);
+        due("fault() of " + text, x.fault(), 0);
+        due("where() of " + text, x.where(), -1);
+    }
+
+    /** A text that is refused for a fault at a place. */
+    static void faulty(String text, int fault, int place) {
+        TwoWeavers x = new TwoWeavers();
+        due(x, "cloth of " + text, tell(x, text), -1, 4);
+        due("fault() of " + text, x.fault(), fault);
+        due("where() of " + text, x.where(), place);
+    }
+
+    /** The fault is at what stands behind the bar of the text; the bar is taken out. */
+    static void faultAtBar(String text, int fault) {
+        faulty(text.replace("|", ""), fault, text.indexOf('|'));
     }
 
     /** The row that led() tells, or -9 if it throws what it may throw. */
