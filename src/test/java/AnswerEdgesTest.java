@@ -191,6 +191,9 @@ public final class AnswerEdgesTest {
         orders(";note right 0 before left 0", "", "a", 1);
         orders(";note left 0 before right 0", "", "", 1);
         orders(";note left 1 before right 1;note right 1 before left 1", "a", "a", 2);
+        Check.about("ORDERS: notes of another CLOTH are gone");
+        standing(";note left 0 before right 0", "a", "a").due("orders()", 1).told(TEXT + ";left a;right a").due("orders()", 2).end();
+        standing(";note right 0 before left 0", "a", "a").due("orders()", 1).told(TEXT + ";left a;right a").due("orders()", 2).end();
         Check.about("ORDERS: six notes");
         String six = ";note left 0 before right 0;note right 0 before left 1;note left 1 before right 1;note right 1 before left 2;"
             + "note left 2 before right 2;note right 2 before left 3";

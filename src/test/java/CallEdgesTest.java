@@ -61,11 +61,28 @@ public final class CallEdgesTest {
         run.told(TEXT, 3).due("colour(0, 0, 2)", 0).due("colour(1, 0, 2)", 0).due("size(9)", 0).due("size(10)", 0).due("size(11)", 0);
         run.refused(6, "undo()").refused(1, "back(0)").due("rows(0)", 2).due("rows(1)", 1).due("colour(0, 0, 0)", 8);
         run.due("mark()", 0).end();
-        Check.about("cloth: nothing of the former one is left");
-        run = new Run().told(TEXT + ";answers a b;note left 0 before right 0;note right 1 before left 1");
+        Check.about("cloth: nothing of former ones is left, nor of one with a fault");
+        String rich = TEXT + ";answers a b;note left 0 before right 0;note right 1 before left 1";
+        nothingIsLeft(new Run().told(rich));
+        nothingIsLeft(new Run().told(rich).told(rich));
+        nothingIsLeft(new Run().fed(rich + " ?").faulty(rich.length() + 2, 1, rich.length() + 1));
+        nothingIsLeft(new Run().told(rich).all(1, "rip(0)", "rip(1)").times(1, "weeks(9)").told(rich));
+        new Run().told(rich, 3).told(rich, 3).told(rich, 3).due("size(2)", 2).due("size(3)", 2).due("rows(0)", 2).end();
+    }
+
+    private static void nothingIsLeft(Run run) {
         run.told(CLOTH + "colour q left 1 right 2;row x of q 1;row y of q 1;row z of q 0", 3).due("size(1)", 1).due("size(2)", 0);
-        run.due("size(3)", 0).due("rows(0)", 0).due("rows(1)", 0).due("row(2, 2)", 0).due("row(0, 3)", 0).due("next(0, 0)", 0);
-        run.due("next(2, 0)", 0).due("next(0, 2)", 0).due("may(0)", 7).refused(1, "colour(0, 1, 0)", "seen(0, 0)").end();
+        run.due("size(3)", 0).due("size(9)", 0).due("rows(0)", 0).due("rows(1)", 0).due("units()", 0).due("may(0)", 7);
+        for (int r = 0; r < 3; r++) {
+            run.due("row(" + r + ", 2)", 0).due("row(" + r + ", 3)", r);
+            for (int right = 0; right < 3; right++) {
+                run.due("next(" + r + ", " + right + ")", 0);
+            }
+        }
+        for (int side = 0; side < 2; side++) {
+            run.due("colour(" + side + ", 0, 0)", 1 + side).due("colour(" + side + ", 0, 1)", 0).due("colour(" + side + ", 0, 2)", 0);
+        }
+        run.due("weave(0, 2)", 1).due("weave(1, 2)", 1).due("orders()", 2).refused(1, "colour(0, 1, 0)", "seen(0, 0)").end();
     }
 
     private static void clothStaysWithAFault() {
@@ -264,6 +281,25 @@ public final class CallEdgesTest {
         run = new Run().told("cloth length 6 slack 0 left 2 right 1 rate 3;" + text + ";left a,a;right a,a,a");
         run.due("meeting(0)", 1).due("weeks(9)", 0).due("rows(0)", 2).due("rows(1)", 3).due("rip(1)", 1).due("meets()", 1);
         run.due("weeks(1)", 0).end();
+        String apart = "colour r left 9 right 9;row a of r 1;row b of r 1;row c of r 1;next a then a;next b then b;next c then a,b,c";
+        // one row by the left, one by the right, one by each: then more would be woven
+        run = new Run().told("cloth length 6 slack 0 left 1 right 1 rate 5;" + apart + ";left c,a;right b,b");
+        run.due("meeting(0)", 1).due("meeting(2)", 1).due("meeting(1)", 3).due("weeks(9)", 0).due("rows(0)", 2).due("rows(1)", 2).end();
+        run = new Run().told("cloth length 6 slack 0 left 1 right 1 rate 5;" + apart + ";left c,a,a;right b");
+        run.due("meeting(0)", 1).due("meeting(2)", 0).due("meeting(1)", 3).due("weeks(9)", 0).due("rows(0)", 3).due("rows(1)", 1).end();
+        String seams = "colour r left 9 right 9;row a of r 1;row s of r 1 seam;next a then a,s;next s then a;left a,s;right a,s";
+        run = new Run().told("cloth length 5 slack 0 left 1 right 1 rate 5;" + seams);
+        run.due("meeting(0)", 1).due("weeks(9)", 0).due("rows(0)", 2).due("rows(1)", 2).end();
+        String both = "colour r left 9 right 9;row a of r 1;row s of r 1 seam;next a then a;left s;right s";
+        run = new Run().told("cloth length 5 slack 0 left 1 right 1 rate 5;" + both);
+        run.due("meeting(0)", 2).due("meeting(2)", 1).due("weeks(9)", 0).due("rows(0)", 1).due("rows(1)", 1).end();
+        Check.about("A WEEK: each row as BEST tells its side");
+        run = new Run().told("cloth length 6 slack 0 left 1 right 1 rate 1;colour r left 3 right 3;row a of r 1;row b of r 1;row c of r 1;"
+            + "row d of r 1;row e of r 1;row f of r 1;next a then b;next b then c;next c then d;next d then e;next e then f");
+        for (int week = 0; week < 3; week++) {
+            run.due("weeks(1)", 2).due("at(0, " + week + ")", week).due("at(1, " + week + ")", 5 - week);
+        }
+        run.due("meets()", 1).end();
         Check.about("A WEEK: nothing if there is no MEETING");
         run = new Run().told("cloth length 19 slack 0 left 1 right 1 rate 3;" + text).due("meeting(0)", -2).due("weeks(9)", 0);
         run.due("rows(0)", 0).due("rows(1)", 0).due("size(9)", 9).end();
@@ -298,6 +334,14 @@ public final class CallEdgesTest {
         Check.about("UNDO: a row ripped comes back, with its colour");
         Run run = new Run().told(TEXT).due("rip(0)", 1).due("undo()", 1).due("rows(0)", 2).due("at(0, 1)", 1).due("colour(0, 1, 2)", 0);
         run.due("colour(0, 1, 0)", 3).due("colour(0, 1, 1)", 2).end();
+        Check.about("UNDO: all rows and colours of both sides are as they were");
+        run = filled().times(1, "weeks(1)").due("undo()", 1);
+        isFilled(run).end();
+        run = filled();
+        for (int side = 0; side < 2; side++) {
+            run.times(3, "rip(" + side + ")").times(3, "weave(" + side + ", 1)");
+        }
+        isFilled(run.times(12, "undo()")).end();
         Check.about("UNDO: of weeks(n) all n WEEKS");
         run = new Run().told("cloth length 18 slack 0 left 1 right 1 rate 1;colour r left 9 right 9;row a of r 1;next a then a");
         run.due("weeks(2)", 4).due("weeks(3)", 6).due("size(9)", 5).due("size(10)", 2).due("undo()", 1).due("size(9)", 2);
@@ -305,6 +349,29 @@ public final class CallEdgesTest {
         Check.about("UNDO itself is no ACT, a MARK neither");
         run = new Run().told(TEXT).all(1, "weave(0, 0)", "weave(0, 0)", "undo()").due("mark()", 0).due("size(10)", 1).due("undo()", 1);
         run.due("rows(0)", 2).refused(6, "undo()").due("size(11)", 1).end();
+    }
+
+    private static final String PAIR = "cloth length 60 slack 9 left 9 right 9 rate 5;colour r left 9 right 9;colour g left 9 right 9;"
+        + "row a of r 1;row b of g 1;next a then a,b;next b then a,b;left a,b,a,b,a,a;right b,b,a,b,a,b";
+
+    private static Run filled() {
+        return new Run().told(PAIR);
+    }
+
+    private static Run isFilled(Run run) {
+        int[][] rows = {{0, 1, 0, 1, 0, 0}, {1, 1, 0, 1, 0, 1}};
+        for (int side = 0; side < 2; side++) {
+            run.due("rows(" + side + ")", 6);
+            for (int place = 0; place < 6; place++) {
+                run.due("at(" + side + ", " + place + ")", rows[side][place]);
+            }
+            for (int colour = 0; colour < 2; colour++) {
+                int used = side == colour ? 4 : 2;
+                run.due("colour(" + side + ", " + colour + ", 0)", 9 - used).due("colour(" + side + ", " + colour + ", 1)", used);
+                run.due("colour(" + side + ", " + colour + ", 2)", 0);
+            }
+        }
+        return run.due("size(9)", 0);
     }
 
     private static void threeMarks() {
@@ -331,6 +398,16 @@ public final class CallEdgesTest {
             run.due(kept[i], were[i]);
         }
         run.due("size(9)", 2).due("colour(0, 1, 2)", 2).end();
+        run = filled().due("mark()", 0);
+        for (int side = 0; side < 2; side++) {
+            run.times(6, "rip(" + side + ")").times(3, "weave(" + side + ", 1)").times(3, "weave(" + side + ", 0)");
+        }
+        isFilled(run.times(1, "weeks(1)").due("back(0)", 1)).end();
+        Check.about("MARKS: at the 24th row");
+        run = new Run().told(FREE + "left a" + ",a".repeat(11) + ";right a" + ",a".repeat(11)).times(11, "weave(0, 0)").times(11, "weave(1, 0)");
+        run.due("weave(0, 2)", 1).due("weave(1, 2)", 1).due("mark()", 0).due("rip(0)", 1).due("rip(1)", 1).due("weave(0, 0)", 1);
+        run.due("weave(1, 0)", 1).due("undo()", 1).due("undo()", 1).due("undo()", 1).due("at(0, 23)", -1, 1).due("at(1, 23)", 2);
+        run.due("weave(0, 0)", 1).due("back(0)", 1).due("at(0, 23)", 2).due("at(1, 23)", 2).end();
         Check.about("back: refused, it takes no ACTS away");
         run = new Run().told(TEXT).due("weave(0, 0)", 1).refused(1, "back(0)").due("size(10)", 1).due("undo()", 1);
         run.due("mark()", 0).due("weave(0, 0)", 1).refused(1, "back(1)").due("undo()", 1).end();
@@ -379,7 +456,8 @@ public final class CallEdgesTest {
             "seenAt(0, 0)", "orders()", "ahead(0, 0)", "mark()", "back(0)"};
         Run run;
         for (String call : fine) {
-            new Run().told(TEXT).due("weave(0, 0)", 1).due("mark()", 0).due("weave(0, 0)", 1).refused(1, "rows(2)").times(1, call).end();
+            run = new Run().told(TEXT).due("weave(0, 0)", 1).due("mark()", 0).due("weave(0, 0)", 1);
+            run.due("rows(2)", -1, 1).times(1, call).end();
         }
         Check.about("TROUBLE: calls of which no number is told leave it");
         String[] refusedBy = {"", "rows(2)", "weeks(0)", "mark()", "", "weave(0, 2)", "woven(0)"};

@@ -8,10 +8,13 @@ public final class MeetingEdgesTest {
         bothHaveRows();
         rightsLastComesRightOfLeftsLast();
         bestKeepsToUnits();
+        bestWithUnlikeHands();
         bestKeepsToColours();
+        bestKeepsToBothColours();
         bestKeepsToTwentyFourRows();
         bestKeepsToSeams();
         bestInItsOrder();
+        bestIsOfWhatStands();
         meetingIsRefused();
         wovenIsRefused();
         takesIsRefused();
@@ -101,6 +104,77 @@ public final class MeetingEdgesTest {
         standing(cloth(4, 1, 1, 1), 3, 2).due("meeting(0)", 0).due("meeting(1)", 0).due("ways()", 1).end();
         standing(cloth(4, 0, 1, 1), 3, 2).due("meeting(0)", 1).due("meeting(1)", 0).due("meeting(2)", 0).due("ways()", 0).end();
         standing(cloth(4, 0, 1, 1), 12, 12).due("meeting(0)", 20).due("meeting(1)", 0).due("meeting(2)", 9).end();
+    }
+
+    private static void bestWithUnlikeHands() {
+        Check.about("A MEETING: hands 1 and 9");
+        standing(cloth(10, 0, 9, 1), 0, 0).due("meeting(1)", 2).due("meeting(3)", 1).due("ways()", 1).due("sureRows(0)", 1).end();
+        standing(cloth(10, 0, 1, 9), 0, 0).due("meeting(1)", 2).due("meeting(3)", 1).due("ways()", 1).due("sureRows(1)", 1).end();
+        standing(cloth(12, 0, 9, 1), 0, 0).due("meeting(1)", 4).due("meeting(3)", 1).due("ways()", 1).end();
+        standing(cloth(12, 0, 1, 9), 0, 0).due("meeting(1)", 4).due("meeting(3)", 3).due("ways()", 1).end();
+        standing(cloth(60, 0, 9, 1), 0, 0).due("meeting(1)", 12).due("meeting(3)", 6).due("ways()", 3).end();
+        standing(cloth(60, 0, 1, 9), 0, 0).due("meeting(1)", 12).due("meeting(3)", 6).due("ways()", 3).end();
+        standing(cloth(60, 9, 1, 9), 0, 0).due("meeting(1)", 8).due("meeting(3)", 1).end();
+        standing(cloth(60, 9, 9, 1), 0, 0).due("meeting(1)", 8).due("meeting(3)", 7).end();
+    }
+
+    private static void bestKeepsToBothColours() {
+        Check.about("A MEETING: each colour as it is in its STORE");
+        String two = "row a of r 1;row b of g 1;next a then a,b;next b then a,b";
+        int[][] stores = {{1, 1, 1, 1}, {0, 2, 2, 0}, {2, 0, 0, 2}, {0, 1, 1, 1}, {1, 1, 0, 1}};
+        int[] ways = {4, 1, 1, 0, 0};
+        for (int i = 0; i < stores.length; i++) {
+            int[] s = stores[i];
+            Run run = new Run().told(cloth(4, 0, 1, 1) + "colour r left " + s[0] + " right " + s[2] + ";colour g left " + s[1] + " right " + s[3] + ";" + two);
+            run.due("far(0)", s[0] + s[1]).due("far(1)", s[2] + s[3]);
+            boolean enough = s[0] + s[1] + s[2] + s[3] >= 4;
+            run.due("meeting(1)", enough ? 4 : -2);
+            if (enough) {
+                run.due("meeting(3)", 2).due("takes(0, 0)", s[0]).due("takes(0, 1)", s[1]).due("takes(1, 0)", s[2]).due("takes(1, 1)", s[3]);
+            }
+            run.due("ways()", ways[i]).end();
+        }
+        Check.about("BEST: the first by numbers, as far as each STORE lasts");
+        String apart = cloth(6, 0, 1, 1) + "colour r left 1 right 1;colour g left 2 right 1;row a of r 1;row b of g 1;row c of g 0;"
+            + "next a then a,b,c;next b then a,b,c;next c then a,b,c";
+        wovenAre(new Run().told(apart + ";left c;right c"), 0, 0, 1, 2, 2);
+        // the right is behind a seam row, so that the left weaves all; then the other way round
+        String seam = apart.replace("row c of g 0;", "row c of g 0;row s of g 0 seam;").replace("next c then a,b,c", "next c then a,b,c,s;next s then a,b,c");
+        wovenAre(new Run().told(seam + ";right s"), 5, 0, 1, 1, 2, 2);
+        wovenAre(new Run().told(seam + ";left s"), 0, 0, 1, 2, 2, 2);
+        wovenAre(new Run().told(seam.replace("colour r left 1", "colour r left 2") + ";right s"), 5, 0, 0, 1, 1, 2);
+        Check.about("BEST: by numbers, where both sides weave rows of their own");
+        String path = cloth(8, 0, 1, 1) + "colour r left 4 right 4;row a of r 1;row b of r 1;row c of r 1;row d of r 1;"
+            + "next d then c,b;next c then d,a;next b then c,d;next a then b";
+        wovenAre(new Run().told(path), 4, 0, 1, 2, 0, 1, 2, 0, 1);
+        wovenAre(new Run().told(path + ";left d;right d"), 3, 1, 2, 0, 1, 3, 1);
+        wovenAre(new Run().told(path.replace("left 4 right 4", "left 5 right 3") + ";left a;right a"), 4, 1, 2, 0, 1, 3, 2);
+    }
+
+    private static void bestIsOfWhatStands() {
+        Check.about("BEST, WAYS, SURE: of what stands now");
+        String text = cloth(9, 0, 1, 1) + "colour r left 6 right 6;row a of r 1;next a then a";
+        Run run = new Run().told(text).due("meeting(1)", 9).due("meeting(3)", 3).due("ways()", 4).due("takes(0, 0)", 3).due("takes(1, 0)", 6);
+        run.due("weave(0, 0)", 1).due("mark()", 0).due("meeting(1)", 8).due("meeting(3)", 2).due("ways()", 4).due("takes(0, 0)", 2);
+        run.due("rip(0)", 1).due("meeting(1)", 9).due("meeting(3)", 3).due("ways()", 3).due("undo()", 1).due("meeting(1)", 8).due("ways()", 4);
+        run.due("weeks(1)", 2).due("meeting(1)", 6).due("meeting(3)", 1).due("takes(1, 0)", 5).due("woven(0)", 0).refused(1, "woven(6)");
+        run.due("back(0)", 1).due("meeting(1)", 8).due("rip(0)", 1).due("weave(0, 0)", 1).due("rip(0)", 1).due("meeting(3)", 3).due("ways()", 2);
+        run.told(text.replace("length 9", "length 4")).due("meeting(1)", 4).due("meeting(3)", 1).due("takes(0, 0)", 1).due("takes(1, 0)", 3);
+        run.due("ways()", 3).end();
+        Check.about("SURE: the other's STORE is used up meanwhile");
+        String other = cloth(7, 0, 1, 1) + "colour r left 3 right 4;row a of r 1;next a then a;left a;right a";
+        run = new Run().told(other).due("meeting(1)", 5).due("sureRows(0)", 1).due("weave(1, 0)", 1).due("weave(1, 0)", 1).due("rip(1)", 1);
+        run.due("rip(1)", 1).due("weave(1, 0)", 1).due("may(1)", 0).due("sureRows(0)", 0).due("meeting(1)", -2).end();
+        run = new Run().told(other.replace("length 7", "length 5")).due("meeting(1)", 3).times(2, "weave(1, 0)").times(2, "rip(1)").due("weave(1, 0)", 1);
+        run.due("may(1)", 0).due("sureRows(0)", 1).due("meeting(1)", 2).end();
+    }
+
+    private static void wovenAre(Run run, int byLeft, int... rows) {
+        run.due("meeting(1)", rows.length).due("meeting(3)", byLeft);
+        for (int i = 0; i < rows.length; i++) {
+            run.due("woven(" + i + ")", rows[i]);
+        }
+        run.refused(1, "woven(" + rows.length + ")").end();
     }
 
     private static void bestKeepsToColours() {
@@ -337,6 +411,16 @@ public final class MeetingEdgesTest {
         new Run().told(cloth(6, 0, 1, 1) + text + ";right c").due("may(0)", 7).due("may(1)", 7).due("sureRows(0)", 0).end();
         new Run().told(cloth(6, 0, 1, 1) + text + ";left a;right c").due("sure(0, 0)", 0).due("sure(1, 0)", 0).due("sure(1, 1)", 0)
             .due("sure(1, 2)", 1).due("sureRows(1)", 4).end();
+        Check.about("SURE: several ROWS, as bits");
+        String any = "colour r left 9 right 9;row a of r 1;row b of r 1;row c of r 1;next a then a,b,c;next b then a,b,c;next c then a,b,c";
+        new Run().told(cloth(6, 0, 1, 1) + any).due("sureRows(0)", 7).due("sureRows(1)", 7).end();
+        new Run().told(cloth(6, 0, 1, 1) + any.replace("row b of r 1", "row b of r 1 seam")).due("sureRows(0)", 5).due("sureRows(1)", 5).end();
+        Check.about("SURE: of either colour what the row takes is gone from the STORE");
+        String second = "colour r left 0 right 0;colour g left 2 right 1;row a of r 0;row b of g 2;row c of g 1;row s of r 0 seam;"
+            + "next a then b;next b then c;next c then c,s,a;next s then s";
+        new Run().told(cloth(5, 0, 1, 1) + second + ";left a;right s").due("may(0)", 2).due("may(1)", 0).due("sureRows(0)", 0).end();
+        new Run().told(cloth(4, 0, 1, 1) + second.replace("left 2", "left 3") + ";left a;right s").due("sureRows(0)", 2).end();
+        new Run().told(cloth(4, 0, 1, 1) + second.replace("left 2", "left 4") + ";left a;right s").due("sureRows(0)", 2).end();
         Check.about("SURE: what the row takes is gone from the STORE");
         String takes = "colour r left 3 right 9;row a of r 1;row b of r 2;next a then a,b;next b then a,b;left a;right a";
         // three units more then: by one row of each, or not at all when the left has used up what it has

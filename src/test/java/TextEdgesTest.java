@@ -113,6 +113,21 @@ public final class TextEdgesTest {
             + "row zzzzzzz of azazazaz 1", 2);
         Check.fine(ONE + ";row aa of r 0;row z of r 0;row zz of r 0;row aaaaaaaa of r 0;row aaaaaaa of r 0", 6);
 
+        Check.about("WORDS of LINES: each letter counts");
+        String[] texts = {"|cloth", "cloth |length", "cloth length 4 |slack", "cloth length 4 slack 0 |left", "cloth length 4 slack 0 left 1 |right",
+            "cloth length 4 slack 0 left 1 right 1 |rate", "|colour", "colour r |left", "colour r left 1 |right", "|row", "row a |of",
+            ONE + " |seam", "|next", ONE + ";next a |then", "|answers", "|left", "|right", "|motif", "motif m |plain", "motif m |mirrored",
+            "motif m |turning", "motif m |growing", "|note", "note |left", "note |right", "note left 1 |before", "note left 1 before |right"};
+        for (String text : texts) {
+            int from = text.indexOf('|') + 1;
+            for (int i = from; i < text.length(); i++) {
+                char other = text.charAt(i) == 'z' ? 'a' : (char) (text.charAt(i) + 1);
+                Check.faultAtBar(text.substring(0, i) + other + text.substring(i + 1), 1);
+                Check.faultAtBar(text.substring(0, i) + text.substring(i + 1) + (i == from ? "" : " "), 1);
+            }
+            Check.faultAtBar(text + (text.length() - from < 8 ? "x" : "xx"), 1);
+        }
+
         Check.about("small letters: a to z");
         for (char sign : new char[] {'a' - 1, 'z' + 1, 'A', 'Z', 'a' + 128, 'z' + 128}) {
             Check.faultAtBar("colour |" + sign, 1);
@@ -331,6 +346,10 @@ public final class TextEdgesTest {
         Check.faultAtBar(THREE + ";answers a b;answers c |b", 3);
         Check.faultAtBar(THREE + ";answers a a;answers |a a", 3);
         Check.faultAtBar(THREE + ";answers a a;answers b |a", 3);
+        for (char r = 'a'; r <= 'h'; r++) {
+            Check.faultAtBar(kinds(8) + ";answers a b;answers c d;answers e f;answers g h;answers |" + r, 3);
+        }
+        Check.fine(kinds(8) + ";answers a h;answers b g;answers c f;answers d e", 8);
         Check.about("answers: 2 at a NAME that isn't told, or is of another sort");
         Check.faultAtBar(THREE + ";answers |d a", 2);
         Check.faultAtBar(THREE + ";answers |r a", 2);
@@ -527,6 +546,10 @@ public final class TextEdgesTest {
         for (String name : "r a b c d e f g h abcdefgh m n o".split(" ")) {
             Check.faultAtBar(most + ";motif |" + name, 3);
         }
+        Check.about("NAMES: the last of all that there is room for is told, too");
+        Check.fine(kinds(7) + ";colour y left 1 right 1;motif m plain a;motif n plain a;motif o plain a;motif p plain a;row z of y 0;left z;right z", 8);
+        Check.fine(CLOTH + ";colour r left 1 right 1;row a of r 1;motif m plain a;motif n plain a;motif o plain a;motif p plain a;"
+            + "row b of r 1;row c of r 1;row d of r 1;row e of r 1;row f of r 1;row g of r 1;colour q left 1 right 1;row h of q 0;answers h a", 8);
         Check.about("2: a NAME that isn't told, or is of another sort than must stand there; at it");
         Check.faultAtBar("row a of |r 1;colour r left 1 right 1", 2);
         Check.faultAtBar("row a of |a 1", 2);
