@@ -628,7 +628,7 @@ public final class TwoWeavers {
             if (last < 0) {
                 return allKinds();
             }
-            if (isSeam(last)) {
+            if (hasBit(seams, last)) {
                 return 0;
             }
             return side == LEFT ? rightOf[last] : leftOf[last];

@@ -82,7 +82,7 @@ public final class CallEdgesTest {
         for (int side = 0; side < 2; side++) {
             run.due("colour(" + side + ", 0, 0)", 1 + side).due("colour(" + side + ", 0, 1)", 0).due("colour(" + side + ", 0, 2)", 0);
         }
-        run.due("weave(0, 2)", 1).due("weave(1, 2)", 1).due("orders()", 2).refused(1, "colour(0, 1, 0)", "seen(0, 0)").end();
+        run.due("weave(0, 2)", 1).due("weave(1, 2)", 1).due("orders()", 2).due("may(0)", 0).due("may(1)", 0).refused(1, "colour(0, 1, 0)", "seen(0, 0)").end();
     }
 
     private static void clothStaysWithAFault() {
@@ -156,6 +156,14 @@ public final class CallEdgesTest {
         run.due("spare(4)", 3).refused(1, "spare(-1)", "spare(5)", "spare(max)", "spare(min)").end();
         new Run().told(text + "next a then b;next b then b").due("spare(2)", 0).due("spare(0)", -2).end();
         new Run().told(CLOTH + "colour r left 1 right 1;row a of r 1;row b of r 1").due("instead(0, 1)", 1).due("spare(0)", -2).end();
+        Check.about("spare: of eight ROWS, and of two behind a CLOTH that had eight");
+        String eight = CLOTH + "colour r left 1 right 1;colour g left 1 right 1;row a of r 1;row b of r 1;row c of r 1;row d of r 1;row e of r 1;"
+            + "row f of r 1;row q of r 1;row h of ";
+        for (String colour : new String[] {"r", "g"}) {
+            String last = eight + colour + " 1";
+            run = new Run().told(last, 8).due("spare(0)", colour.equals("r") ? -2 : 7).due("spare(7)", colour.equals("r") ? -2 : 0);
+            run.told(last, 8).told(CLOTH + "colour r left 1 right 1;row a of r 1;row b of r 1", 2).due("spare(0)", -2).due("spare(1)", -2).end();
+        }
     }
 
     // ---- what is woven
@@ -294,12 +302,16 @@ public final class CallEdgesTest {
         run = new Run().told("cloth length 5 slack 0 left 1 right 1 rate 5;" + both);
         run.due("meeting(0)", 2).due("meeting(2)", 1).due("weeks(9)", 0).due("rows(0)", 1).due("rows(1)", 1).end();
         Check.about("A WEEK: each row as BEST tells its side");
-        run = new Run().told("cloth length 6 slack 0 left 1 right 1 rate 1;colour r left 3 right 3;row a of r 1;row b of r 1;row c of r 1;"
-            + "row d of r 1;row e of r 1;row f of r 1;next a then b;next b then c;next c then d;next d then e;next e then f");
+        String path = "cloth length 6 slack 0 left 1 right 1 rate 1;colour r left 3 right 3;row a of r 1;row b of r 1;row c of r 1;"
+            + "row d of r 1;row e of r 1;row f of r 1;next a then b;next b then c;next c then d;next d then e;next e then f";
+        run = new Run().told(path);
         for (int week = 0; week < 3; week++) {
             run.due("weeks(1)", 2).due("at(0, " + week + ")", week).due("at(1, " + week + ")", 5 - week);
         }
         run.due("meets()", 1).end();
+        pathIsWoven(new Run().told(path).due("weeks(3)", 6));
+        pathIsWoven(new Run().told(path.replace("rate 1", "rate 3")).due("weeks(1)", 6));
+        pathIsWoven(new Run().told(path.replace("rate 1", "rate 5")).due("weeks(9)", 6));
         Check.about("A WEEK: nothing if there is no MEETING");
         run = new Run().told("cloth length 19 slack 0 left 1 right 1 rate 3;" + text).due("meeting(0)", -2).due("weeks(9)", 0);
         run.due("rows(0)", 0).due("rows(1)", 0).due("size(9)", 9).end();
@@ -307,6 +319,13 @@ public final class CallEdgesTest {
         run = new Run().told("cloth length 4 slack 0 left 1 right 1 rate 5;colour r left 9 right 9;row a of r 1;row s of r 1 seam;"
             + "next a then a;next s then a;left s");
         run.due("weeks(1)", 3).due("rows(0)", 1).due("rows(1)", 3).due("meets()", 1).end();
+    }
+
+    private static void pathIsWoven(Run run) {
+        for (int place = 0; place < 3; place++) {
+            run.due("at(0, " + place + ")", place).due("at(1, " + place + ")", 5 - place);
+        }
+        run.due("meets()", 1).end();
     }
 
     // ---- undoing, marks

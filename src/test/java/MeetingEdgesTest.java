@@ -188,6 +188,11 @@ public final class MeetingEdgesTest {
         String nine = "colour r left 9 right 9;row a of r 3;next a then a";
         new Run().told(cloth(6, 0, 1, 1) + nine).due("meeting(1)", 6).due("takes(0, 0)", 9).due("takes(1, 0)", 9).due("ways()", 1).end();
         new Run().told(cloth(7, 0, 1, 1) + nine).due("meeting(1)", -2).due("ways()", 0).end();
+        Check.about("A MEETING: up to 9 of the second colour");
+        String second = nine.replace("row a of r", "colour g left 9 right 9;row a of g");
+        new Run().told(cloth(6, 0, 1, 1) + second).due("meeting(1)", 6).due("takes(0, 1)", 9).due("takes(1, 1)", 9).due("takes(0, 0)", 0)
+            .due("ways()", 1).due("far(0)", 3).due("far(1)", 3).end();
+        new Run().told(cloth(7, 0, 1, 1) + second).due("meeting(1)", -2).due("ways()", 0).end();
         Check.about("A MEETING: what is ripped does not come back to the STORE");
         String gone = "colour r left 2 right 1;row a of r 1;row b of r 0;next a then a;next b then b;left a,a;right b";
         new Run().told(cloth(4, 0, 1, 1) + gone).due("meeting(0)", 2).due("meeting(2)", 2).due("woven(0)", 1).due("takes(0, 0)", 0).end();
@@ -230,6 +235,8 @@ public final class MeetingEdgesTest {
         String last = "colour r left 2 right 2;row s of r 1 seam;row a of r 1;next a then s,a;next s then a";
         new Run().told(cloth(4, 0, 1, 1) + last).due("meeting(1)", 4).due("meeting(3)", 2).due("woven(0)", 1).due("woven(1)", 0)
             .due("woven(2)", 1).due("woven(3)", 1).end();
+        String right = "colour r left 9 right 9;colour g left 0 right 1;row t of g 1 seam;row a of r 1;next a then a,t;next t then a";
+        wovenAre(new Run().told(cloth(4, 0, 1, 1) + right), 1, 1, 0, 1, 1);
         Check.about("A MEETING: both weave a seam ROW at last");
         String both = "colour r left 9 right 9;row a of r 1;row s of r 1 seam;row t of r 1 seam;next a then a,s;next s then t;next t then a";
         new Run().told(cloth(6, 0, 1, 1) + both + ";left a,a;right a,a").due("meeting(1)", 2).due("ways()", 4).end();
