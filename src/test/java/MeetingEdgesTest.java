@@ -218,6 +218,17 @@ public final class MeetingEdgesTest {
             .due("ways()", 1).end();
         new Run().told(cloth(26, 0, 1, 1) + other + ";left s").due("meeting(0)", 1).due("meeting(2)", 1).due("meeting(3)", 2)
             .due("ways()", 0).end();
+        Check.about("A MEETING: 48 rows woven, each of them told");
+        String unlike = "colour r left 0 right 0;row a of r 3;row b of r 0;row c of r 0;next b then c;next c then b";
+        Run run = new Run().told(cloth(48, 0, 1, 1) + unlike).due("meeting(1)", 48);
+        for (int i = 0; i < 48; i++) {
+            run.due("woven(" + i + ")", 1 + i % 2);
+        }
+        run.due("weeks(9)", 18).due("at(0, 8)", 1).due("at(1, 8)", 2).times(2, "weeks(9)").due("rows(0)", 24).due("rows(1)", 24);
+        run.due("at(0, 23)", 2).due("at(1, 23)", 1).due("meets()", 1).end();
+        Check.about("A MEETING: of eight ROWS");
+        run = new Run().told(eight(cloth(48, 0, 1, 1), ""), 8).due("meeting(1)", 48).due("woven(47)", 0).due("far(0)", 24).due("sureRows(0)", 255);
+        run.due("sureRows(1)", 255).due("weave(0, 7)", 1).due("weave(1, 7)", 1).due("third()", 255).due("meeting(1)", 46).end();
         Check.about("A MEETING: rows that stand count among the 24");
         standing(cloth(25, 0, 1, 1), 0, 12).due("meeting(1)", 13).due("meeting(3)", 1).due("ways()", 13).end();
         standing(cloth(36, 0, 1, 1), 0, 12).due("meeting(1)", 24).due("meeting(3)", 12).due("ways()", 13).end();
@@ -237,6 +248,12 @@ public final class MeetingEdgesTest {
             .due("woven(2)", 1).due("woven(3)", 1).end();
         String right = "colour r left 9 right 9;colour g left 0 right 1;row t of g 1 seam;row a of r 1;next a then a,t;next t then a";
         wovenAre(new Run().told(cloth(4, 0, 1, 1) + right), 1, 1, 0, 1, 1);
+        Check.about("A MEETING: a seam ROW of another number than what may end the left's");
+        String ends = "colour r left 9 right 9;row a of r 1;row b of r 1;row t of r 1 seam;next a then a,b;next b then a,b,t";
+        wovenAre(new Run().told(cloth(4, 0, 1, 1) + ends + ";right t"), 3, 0, 0, 1);
+        Check.about("A MEETING: none behind a seam ROW, whatever might have been woven ahead of it");
+        new Run().told(cloth(25, 0, 1, 1) + "colour r left 0 right 0;row a of r 0;row s of r 0 seam;next a then a;next s then a" + side("left", 12)
+            + side("right", 1)).due("meeting(0)", 0).due("weave(1, 1)", 1).due("meeting(0)", 1).due("meeting(2)", 0).end();
         Check.about("A MEETING: both weave a seam ROW at last");
         String both = "colour r left 9 right 9;row a of r 1;row s of r 1 seam;row t of r 1 seam;next a then a,s;next s then t;next t then a";
         new Run().told(cloth(6, 0, 1, 1) + both + ";left a,a;right a,a").due("meeting(1)", 2).due("ways()", 4).end();
@@ -358,18 +375,29 @@ public final class MeetingEdgesTest {
         new Run().told(more, 8).due("ways()", MOST_WAYS).end();
         new Run().told(more.replace(";next s then a", "").replace("length 48", "length 47"), 8).due("ways()", 0).end();
         Check.about("WAYS: far more are told as so many, not as what is left of a long");
-        StringBuilder all = new StringBuilder(cloth(48, 9, 1, 1) + "colour q left 0 right 0");
-        for (char r = 'a'; r <= 'h'; r++) {
-            all.append(";row ").append(r).append(" of q 0");
-        }
-        for (char r = 'a'; r <= 'h'; r++) {
-            all.append(";next ").append(r).append(" then a,b,c,d,e,f,g,h");
-        }
         for (int length = 17; length <= 48; length++) {
             long due = length == 17 ? 16L << 51 : length == 18 ? 17L << 54 : MOST_WAYS;
-            new Run().told(all.toString().replace("length 48 slack 9", "length " + length + " slack 0"), 8).due("ways()", due).end();
+            new Run().told(eight(cloth(length, 0, 1, 1), ""), 8).due("ways()", due).end();
         }
-        new Run().told(all.toString(), 8).due("ways()", MOST_WAYS).end();
+        new Run().told(eight(cloth(48, 9, 1, 1), ""), 8).due("ways()", MOST_WAYS).end();
+        Check.about("WAYS: fewer are told as they are, though twice as many were too many");
+        // the right is behind its seam row h, left of which just a comes: 7 to the 21st ways for the 21 rows ahead of that a
+        String ended = eight(cloth(23, 0, 1, 1), "h");
+        new Run().told(ended, 8).due("ways()", 558545864083284007L).end();
+        new Run().told(ended.replace("length 23", "length 22"), 8).due("ways()", 79792266297612001L).end();
+        new Run().told(ended.replace("length 23", "length 24"), 8).due("ways()", MOST_WAYS).end();
+    }
+
+    /** Eight kinds that may all come beside each other; or, with a seam row that the right has woven, that comes behind a alone. */
+    private static String eight(String cloth, String seam) {
+        StringBuilder all = new StringBuilder(cloth + "colour q left 0 right 0");
+        for (char r = 'a'; r <= 'h'; r++) {
+            all.append(";row ").append(r).append(" of q 0").append(seam.equals("" + r) ? " seam" : "");
+        }
+        for (char r = 'a'; r <= 'h'; r++) {
+            all.append(";next ").append(r).append(" then a,b,c,d,e,f,g").append(seam.isEmpty() || r == 'a' ? ",h" : "");
+        }
+        return all.append(seam.isEmpty() ? "" : ";right " + seam).toString();
     }
 
     // ---- sure rows

@@ -13,6 +13,7 @@ public final class TextEdgesTest {
         wholesHaveOneToThreeDigits();
         signsAreSingle();
         linesArePartedBySemicolons();
+        linesAreWhole();
         clothBounds();
         colourBounds();
         rowBounds();
@@ -112,6 +113,13 @@ public final class TextEdgesTest {
         Check.fine(CLOTH + ";colour azazazaz left 1 right 1;colour azazazay left 1 right 1;row zzzzzzzz of azazazay 1;"
             + "row zzzzzzz of azazazaz 1", 2);
         Check.fine(ONE + ";row aa of r 0;row z of r 0;row zz of r 0;row aaaaaaaa of r 0;row aaaaaaa of r 0", 6);
+        for (char letter = 'a'; letter <= 'z'; letter++) {
+            StringBuilder all = new StringBuilder(CLOTH + ";colour colours left 9 right 9");
+            for (int n = 1; n <= 8; n++) {
+                all.append(";row ").append(String.valueOf(letter).repeat(n)).append(" of colours 0");
+            }
+            Check.fine(all.toString(), 8);
+        }
 
         Check.about("WORDS of LINES: each letter counts");
         String[] texts = {"|cloth", "cloth |length", "cloth length 4 |slack", "cloth length 4 slack 0 |left", "cloth length 4 slack 0 left 1 |right",
@@ -181,6 +189,32 @@ public final class TextEdgesTest {
             Check.faultAtBar(ONE + ";|" + word + " a", 1);
         }
         Check.fine("colour r left 9 right 9;row a of r 0;left a;right a;" + CLOTH, 1);
+    }
+
+    /** Lines cut behind each token; a point stands where one is whole. */
+    private static void linesAreWhole() {
+        String[] lines = {"cloth length 4 slack 0 left 1 right 1 rate 1.", "colour q left 1 right 1.", "row b of r 1. seam.", "next a then a.",
+            "answers a a.", "left a. , a.", "right a. , a.", "motif m plain a. , a.", "motif m mirrored a.", "motif m turning a.",
+            "motif m growing a.", "note left 1 before right 1.", "note right 1 before left 1."};
+        for (String line : lines) {
+            Check.about("1 FORM: a TOKEN with which no CLOTH goes on, the end: " + line);
+            String ahead = (line.startsWith("cloth") ? "" : CLOTH + ";") + "colour r left 9 right 9;row a of r 0;next a then a;";
+            ahead = line.startsWith("next") ? ahead.replace("next a then a;", "") : ahead;
+            for (String token : line.split(" ")) {
+                ahead += token.replace(".", "");
+                if (token.endsWith(".")) {
+                    Check.fine(ahead, ahead.contains("row b") ? 2 : 1);
+                    Check.fine(ahead + "  ", ahead.contains("row b") ? 2 : 1);
+                } else {
+                    Check.faultAtBar(ahead + "|", 1);
+                    Check.faultAtBar(ahead + " |;", 1);
+                    Check.faultAtBar(ahead + " |;row z of r 0", 1);
+                    Check.faultAtBar(ahead + " |,", 1);
+                    Check.faultAtBar(ahead + " |?", 1);
+                }
+                ahead += " ";
+            }
+        }
     }
 
     // ---- lines
