@@ -312,7 +312,14 @@ public final class CallEdgesTest {
         pathIsWoven(new Run().told(path).due("weeks(3)", 6));
         pathIsWoven(new Run().told(path.replace("rate 1", "rate 3")).due("weeks(1)", 6));
         pathIsWoven(new Run().told(path.replace("rate 1", "rate 5")).due("weeks(9)", 6));
+        String five = path.replace("length 6", "length 5").replace(";next e then f", "").replace("rate 1", "rate 5");
+        run = new Run().told(five.replace("left 3 right 3", "left 9 right 1")).due("weeks(1)", 5).due("rows(0)", 4).due("at(1, 0)", 4);
+        run.due("at(0, 0)", 0).due("at(0, 3)", 3).due("meets()", 1).end();
+        run = new Run().told(five.replace("left 3 right 3", "left 1 right 9")).due("weeks(1)", 5).due("rows(1)", 4).due("at(0, 0)", 0);
+        run.due("at(1, 0)", 4).due("at(1, 3)", 1).due("meets()", 1).end();
         Check.about("A WEEK: nothing if there is no MEETING");
+        run = new Run().told("cloth length 5 slack 0 left 2 right 1 rate 5;colour r left 9 right 9;row a of r 1;row b of r 1;next a then b");
+        run.due("meeting(0)", -2).due("weeks(1)", 0).due("rows(0)", 0).due("rows(1)", 0).end();
         run = new Run().told("cloth length 19 slack 0 left 1 right 1 rate 3;" + text).due("meeting(0)", -2).due("weeks(9)", 0);
         run.due("rows(0)", 0).due("rows(1)", 0).due("size(9)", 9).end();
         Check.about("A WEEK: who weaves the seam alone");

@@ -37,6 +37,8 @@ public final class FaceTest {
                     types.append(types.length() == 0 ? "" : ",").append(c.getName());
                 }
                 open.add(m.getReturnType().getName() + " " + m.getName() + "(" + types + ")");
+                Check.due("throws clause of " + m.getName(), Arrays.toString(m.getExceptionTypes())
+                    .equals(m.getName().equals("led") ? "[class java.util.NoSuchElementException]" : "[]"), true);
             } else {
                 hidden(m);
             }

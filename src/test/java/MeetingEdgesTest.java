@@ -11,6 +11,8 @@ public final class MeetingEdgesTest {
         bestWithUnlikeHands();
         bestKeepsToColours();
         bestKeepsToBothColours();
+        slackAboveLength();
+        eachSideRipsItsOwn();
         bestKeepsToTwentyFourRows();
         bestKeepsToSeams();
         bestInItsOrder();
@@ -20,6 +22,7 @@ public final class MeetingEdgesTest {
         takesIsRefused();
         far();
         waysAreCounted();
+        bothColoursToTheLast();
         waysAtMostTold();
         sureIsRefused();
         sureIfTheOtherMayNone();
@@ -200,6 +203,35 @@ public final class MeetingEdgesTest {
             .due("meeting(0)", -2).end();
     }
 
+    private static void slackAboveLength() {
+        Check.about("A MEETING, WAYS: UNITS up to length and slack, the slack being more than the length");
+        standing(cloth(4, 9, 1, 1), 0, 0).due("meeting(1)", 4).due("meeting(3)", 1).due("ways()", 75).end();
+        standing(cloth(4, 9, 1, 1), 7, 6).due("meets()", 1).due("meeting(0)", 0).due("meeting(1)", 0).due("ways()", 1).end();
+        standing(cloth(4, 9, 1, 1), 7, 7).due("meets()", 0).due("meeting(0)", 1).due("meeting(2)", 0).due("meeting(1)", 0)
+            .due("ways()", 0).end();
+        standing(cloth(4, 9, 1, 1), 12, 0).due("meeting(0)", 0).due("meeting(1)", 1).due("ways()", 1).end();
+        standing(cloth(4, 9, 1, 1), 0, 12).due("meeting(0)", 0).due("meeting(1)", 1).due("ways()", 1).end();
+    }
+
+    private static void eachSideRipsItsOwn() {
+        Check.about("A MEETING: a side rips no more rows than it has");
+        standing(cloth(4, 0, 1, 1), 5, 0).due("meeting(0)", 2).due("meeting(2)", 2).due("meeting(1)", 1).due("meeting(3)", 0).end();
+        standing(cloth(4, 0, 1, 1), 0, 5).due("meeting(0)", 2).due("meeting(2)", 0).due("meeting(1)", 1).due("meeting(3)", 1).end();
+        standing(cloth(4, 0, 1, 1), 8, 1).due("meeting(0)", 5).due("meeting(2)", 5).due("meeting(1)", 0).end();
+        standing(cloth(4, 0, 1, 1), 1, 8).due("meeting(0)", 5).due("meeting(2)", 0).due("meeting(1)", 0).end();
+        Check.about("A MEETING: what is woven comes beside what is left when its own side has ripped");
+        String text = "colour r left 9 right 9;row a of r 1;row b of r 1;row c of r 1;row d of r 1;";
+        new Run().told(cloth(4, 0, 2, 1) + text + "next a then d;next c then b;next d then b;left a;right b,c").due("meeting(0)", 1)
+            .due("meeting(2)", 0).due("meeting(1)", 1).due("meeting(3)", 0).due("woven(0)", 3).due("takes(1, 0)", 1).end();
+        new Run().told(cloth(4, 0, 1, 2) + text + "next d then a;next b then c,d;right a;left b,c").due("meeting(0)", 1)
+            .due("meeting(2)", 1).due("meeting(1)", 1).due("meeting(3)", 1).due("woven(0)", 3).due("takes(0, 0)", 1).end();
+        Check.about("A MEETING: with 24 rows on both sides, what is ripped makes room");
+        String full = "colour r left 0 right 0;row c of r 0;row b of r 0;row a of r 0;next a then a,b;next b then b;next c then b";
+        Run run = new Run().told(cloth(48, 0, 1, 1) + full + side("left", 12) + ";right b" + ",b".repeat(11)).times(12, "weave(0, 2)");
+        run.times(11, "weave(1, 1)").due("weave(1, 0)", 1).due("meets()", 0).due("meeting(0)", 1).due("meeting(1)", 1).due("meeting(2)", 0);
+        run.due("meeting(3)", 0).due("woven(0)", 1).end();
+    }
+
     private static void bestKeepsToTwentyFourRows() {
         Check.about("A MEETING: each side 24 rows at most");
         standing(cloth(48, 0, 1, 1), 0, 0).due("meeting(1)", 48).due("meeting(3)", 24).due("ways()", 1).due("sureRows(0)", 1).end();
@@ -352,6 +384,28 @@ public final class MeetingEdgesTest {
         new Run().told(cloth(4, 0, 1, 1) + two).due("ways()", 16).end();
     }
 
+    /** Three rows of each colour, in any order, are all that a side can weave with 9 of both: twenty ways. */
+    private static void bothColoursToTheLast() {
+        Check.about("A MEETING, WAYS: up to 9 of both colours, by one side");
+        String kinds = "row a of r 3;row b of g 3;row z of r 0";
+        String[] texts = {kinds + ";next a then a,b,z;next b then a,b,z;right z", kinds + ";next a then a,b;next b then a,b;next z then a,b;left z"};
+        for (int side = 0; side < 2; side++) {
+            for (int[] s : new int[][] {{9, 9, 20}, {8, 9, 0}, {9, 8, 0}}) {
+                String stores = side == 0 ? "colour r left %d right 0;colour g left %d right 0;" : "colour r left 0 right %d;colour g left 0 right %d;";
+                Run run = new Run().told(cloth(7, 0, 1, 1) + String.format(stores, s[0], s[1]) + texts[side]).due("ways()", s[2]);
+                run.due("far(" + side + ")", s[2] > 0 ? 7 : 6).due("sureRows(" + side + ")", s[2] > 0 ? 3 : 0);
+                run.due("meeting(1)", s[2] > 0 ? 6 : -2).due("meeting(3)", s[2] > 0 ? 6 * (1 - side) : -2);
+                for (int i = 0; i < 6 && s[2] > 0; i++) {
+                    run.due("woven(" + i + ")", i / 3);
+                }
+                if (s[2] > 0) {
+                    run.due("takes(" + side + ", 0)", 9).due("takes(" + side + ", 1)", 9).due("takes(" + (1 - side) + ", 0)", 0);
+                }
+                run.end();
+            }
+        }
+    }
+
     /** Two kinds and five that come beside each other by turns: each two rows more come in ten ways. */
     private static String tenths(int leftStore) {
         StringBuilder text = new StringBuilder(cloth(48, 0, 1, 1) + "colour q left " + leftStore + " right 9;row a of q 1;row b of q 0");
@@ -441,6 +495,8 @@ public final class MeetingEdgesTest {
         standing(cloth(4, 0, 1, 1), 2, 1).due("sureRows(0)", 0).due("sureRows(1)", 0).end();
         standing(cloth(4, 1, 1, 1), 2, 1).due("sureRows(0)", 1).due("sureRows(1)", 1).end();
         standing(cloth(4, 0, 1, 1), 0, 0).due("sureRows(0)", 1).due("sureRows(1)", 1).end();
+        standing(cloth(40, 0, 1, 1), 0, 12).times(11, "weave(1, 0)").due("sureRows(0)", 1).due("sureRows(1)", 1).end();
+        standing(cloth(40, 0, 1, 1), 12, 0).times(11, "weave(0, 0)").due("sureRows(0)", 1).due("sureRows(1)", 1).end();
         String text = "colour r left 9 right 9;row a of r 1;row b of r 1;row c of r 1;next a then a,c;next b then b,c;next c then c";
         // a stands left of b by no way, nor b of a, and right of c nothing but c comes
         new Run().told(cloth(6, 0, 1, 1) + text + ";right c").due("may(0)", 7).due("may(1)", 7).due("sureRows(0)", 0).end();

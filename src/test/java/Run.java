@@ -54,17 +54,27 @@ final class Run {
 
     /** The answer is this one; a call that may be refused was not, by trouble(). */
     Run due(String call, long want) {
-        Check.due(call, make(call), want);
-        if (!NEVER_REFUSED.contains(nameOf(call))) {
-            trouble(0);
+        if (NEVER_REFUSED.contains(nameOf(call))) {
+            Check.due(call, make(call), want);
+            return this;
         }
-        return this;
+        return due(call, want, 0);
     }
 
     /** The answer is this one, and trouble() tells this number. */
     Run due(String call, long want, int trouble) {
+        comeFromOtherTrouble(call, trouble);
         Check.due(call, make(call), want);
         return trouble(trouble);
+    }
+
+    /** So that a trouble that was there already is not taken for the call's own; neither call here changes anything. */
+    private void comeFromOtherTrouble(String call, int trouble) {
+        if (!NEVER_REFUSED.contains(nameOf(call))) {
+            made++;
+            int other = trouble == 2 ? x.row(-1, 0) : x.cloth(-1);
+            Check.due("a call that is always refused", other, -1);
+        }
     }
 
     /** What calls answer now, to be held against what they answer later. */
@@ -93,6 +103,7 @@ final class Run {
     Run refused(int trouble, String... calls) {
         for (String call : calls) {
             String before = seen == null ? look() : seen;
+            comeFromOtherTrouble(call, trouble);
             Check.due(call, make(call), refusal(call));
             trouble(trouble);
             seen = look();
@@ -104,8 +115,7 @@ final class Run {
     /** cloth(n) is refused by 4 for this fault at this place: THE TAPE is empty then, the CLOTH stays. */
     Run faulty(int n, int fault, int place) {
         String before = standing(seen == null ? look() : seen);
-        Check.due("cloth(" + n + ")", make("cloth(" + n + ")"), -1);
-        trouble(4);
+        due("cloth(" + n + ")", -1, 4);
         due("fault()", fault).due("where()", place).due("size(12)", 0);
         seen = look();
         Check.due("cloth(" + n + ") left " + seen + " of " + before, standing(seen).equals(before), true);

@@ -23,6 +23,7 @@ public final class TextEdgesTest {
         motifBounds();
         noteBounds();
         namesAreNoWordsOfLines();
+        namesDifferByEveryLetterAndItsPlace();
         namesAreToldOnceAheadOfUse();
         Check.end();
     }
@@ -561,6 +562,22 @@ public final class TextEdgesTest {
             Check.fine(CLOTH + COLOUR + ";row " + word + " of r 0;next " + word + " then " + word + ";left " + word + ","
                 + word + ";answers " + word + " " + word, 1);
             Check.fine(ONE + ";motif " + word + " growing a", 1);
+        }
+    }
+
+    private static void namesDifferByEveryLetterAndItsPlace() {
+        Check.about("NAMES are WORDS: unlike ones tell unlike ROWS");
+        String[] words = ("a b y z aa ab ac ba bb az za zy yz zz aab aba baa abc acb bca cba abcdefg abcdefgh hgfedcba bacdefgh"
+            + " abcdefhg aaaaaaaa aaaaaaab baaaaaaa zzzzzzzz zzzzzzzy yzzzzzzz").split(" ");
+        for (String one : words) {
+            for (String other : words) {
+                if (!one.equals(other)) {
+                    TwoWeavers x = Check.told(CLOTH + ";colour hue left 0 right 0;row " + one + " of hue 0;row " + other
+                        + " of hue 0;left " + other + ";right " + one);
+                    Check.due("at(0, 0) of " + one + ", " + other, x.at(0, 0), 1);
+                    Check.due("at(1, 0) of " + one + ", " + other, x.at(1, 0), 0);
+                }
+            }
         }
     }
 

@@ -2,6 +2,7 @@ import java.io.File;
 import java.io.PrintWriter;
 import java.io.StringWriter;
 import java.util.HashMap;
+import java.util.List;
 import java.util.Map;
 import java.util.Optional;
 import java.util.TreeSet;
@@ -9,11 +10,19 @@ import java.util.regex.Matcher;
 import java.util.regex.Pattern;
 import java.util.spi.ToolProvider;
 
-/** Rule 11 of LANGUAGE.md: calls go at most eight deep, and none calls itself by any way round. */
-public final class DepthTest {
+/**
+ * Rules 4, 6 and 11 of LANGUAGE.md, as the compiled class shows them: no library but what is listed, just led()
+ * throws, calls go at most eight deep, and none calls itself by any way round.
+ */
+public final class RulesTest {
     private static final Pattern METHOD = Pattern.compile("^  \\S.*?([\\w$]+)\\([^)]*\\)( throws .*)?;$");
     private static final Pattern CALL = Pattern.compile("invoke\\w+ .*// \\w*Method (\\S+?):");
+    private static final Pattern THROWS = Pattern.compile("^ +\\d+: athrow");
+    private static final Pattern JOINS = Pattern.compile("invokedynamic");
     private static final int MOST = 8;
+    private static final List<String> LIBRARY = List.of("java/lang/Object.<init>", "java/util/Arrays.fill",
+        "java/lang/Math.min", "java/lang/Math.max", "java/lang/String.length", "java/lang/String.charAt",
+        "java/util/NoSuchElementException.<init>");
 
     private static final Map<String, TreeSet<String>> CALLS = new HashMap<>();
     private static final Map<String, Integer> DEPTHS = new HashMap<>();
@@ -48,7 +57,11 @@ public final class DepthTest {
             } else if (call.find()) {
                 String to = call.group(1).replace("\"", "");
                 CALLS.computeIfAbsent(from, key -> new TreeSet<>()).add(to.contains(".") ? to : own + "." + to);
+                Check.due("rule 4: " + from + " calls " + to, to.contains("/") && !LIBRARY.contains(to), false);
+            } else if (THROWS.matcher(line).find()) {
+                Check.due("rule 6: " + from + " throws", from.equals("TwoWeavers.led"), true);
             }
+            Check.due("rule 4: " + from + " has " + line, JOINS.matcher(line).find(), false);
         }
     }
 
